@@ -1,0 +1,162 @@
+import java.util.Random;
+
+/** All promises: runs of calls by a fixed seed, each answer compared with that of the model. */
+public final class ReferenceTest {
+  private static final int RUNS = 1500;
+  private static final int CALLS = 512;
+  private static final int[] ODD = {-1, -2, 60, 61, 100, Integer.MIN_VALUE, Integer.MAX_VALUE};
+
+  private final Random random;
+  private final RegisterAllocator x = new RegisterAllocator();
+  private final Model model = new Model();
+  private final int run;
+  private final int reach;
+  private final int outs;
+
+  private ReferenceTest(int run) {
+    this.run = run;
+    random = new Random(1000L + run);
+    reach = 2 + random.nextInt(40);
+    outs = 1 + random.nextInt(9);
+  }
+
+  public static void main(String[] args) {
+    for (int run = 0; run < RUNS; run++) {
+      ReferenceTest test = new ReferenceTest(run);
+      if (run % 3 == 0) {
+        test.fill();
+      }
+      test.calls();
+      test.whole();
+    }
+    Check.end();
+  }
+
+  /** Much code at once, so that registers are short. */
+  private void fill() {
+    compare("setRegisters", () -> x.setRegisters(2 + run % 7), () -> model.setRegisters(2 + run % 7));
+    for (int i = 0; i < 60; i++) {
+      appending();
+    }
+    whole();
+  }
+
+  private void calls() {
+    for (int call = 0; call < CALLS / 2; call++) {
+      int choice = random.nextInt(100);
+      if (choice < 45) {
+        appending();
+      } else if (choice < 60) {
+        changing();
+      } else {
+        telling();
+      }
+    }
+  }
+
+  private void appending() {
+    int kind = random.nextInt(12);
+    int a = value();
+    int b = random.nextInt(6) == 0 ? a : value();
+    int number = random.nextInt(5) == 0 ? random.nextInt() : random.nextInt(20) - 10;
+    if (kind < 2) {
+      compare("constant(" + number + ")", () -> x.constant(number), () -> model.constant(number));
+    } else if (kind < 7) {
+      int of = random.nextInt(30) == 0 ? odd(0, 5) : 1 + random.nextInt(4);
+      compare("operate(" + of + ", " + a + ", " + b + ")", () -> x.operate(of, a, b), () -> model.operate(of, a, b));
+    } else {
+      int of = random.nextInt(30) == 0 ? odd(4, 7) : random.nextInt(10) < outs ? 6 : 5;
+      compare("pass(" + of + ", " + a + ")", () -> x.pass(of, a), () -> model.pass(of, a));
+    }
+  }
+
+  private void changing() {
+    int i = instruction();
+    int number = random.nextInt(100);
+    switch (random.nextInt(5)) {
+      case 0 -> compare("change(" + i + ", " + number + ")", () -> x.change(i, number), () -> model.change(i, number));
+      case 1 -> {
+        int many = random.nextInt(8) == 0 ? odd(model.size() + 1, model.size()) : random.nextInt(3);
+        compare("cut(" + many + ")", () -> x.cut(many), () -> model.cut(many));
+      }
+      case 2 -> {
+        int registers = random.nextInt(4) == 0 ? odd(1, 9) : 2 + random.nextInt(7);
+        compare("setRegisters(" + registers + ")", () -> x.setRegisters(registers), () -> model.setRegisters(registers));
+      }
+      default -> compare("allocate()", x::allocate, model::allocate);
+    }
+  }
+
+  private void telling() {
+    int i = instruction();
+    int from = random.nextInt(5) == 0 ? odd(0, 60) : random.nextInt(60);
+    int row = random.nextInt(20) == 0 ? odd(-1, 300) : random.nextInt(90);
+    int what = random.nextInt(20) == 0 ? odd(4, -1) : random.nextInt(4);
+    int of = random.nextInt(8) == 0 ? odd(9, -1) : random.nextInt(9);
+    switch (random.nextInt(15)) {
+      case 0 -> compare("size()", x::size, model::size);
+      case 1 -> compare("kind(" + i + ")", () -> x.kind(i), () -> model.kind(i));
+      case 2 -> compare("counts(" + i + ")", () -> x.counts(i), () -> model.counts(i));
+      case 3 -> compare("nextUse(" + i + ", " + from + ")", () -> x.nextUse(i, from), () -> model.nextUse(i, from));
+      case 4 -> compare("pressure(" + i + ")", () -> x.pressure(i), () -> model.pressure(i));
+      case 5 -> compare("isAllocated()", x::isAllocated, model::isAllocated);
+      case 6, 7 -> compare("step(" + row + ", " + what + ")", () -> x.step(row, what), () -> model.step(row, what));
+      case 8 -> compare("stepCount(" + of + ")", () -> x.stepCount(of), () -> model.stepCount(of));
+      case 9 -> compare("slots()", x::slots, model::slots);
+      case 10 -> compare("pieceCount()", x::pieceCount, model::pieceCount);
+      case 11 -> compare("piece(" + row + ", " + what + ")", () -> x.piece(row, what), () -> model.piece(row, what));
+      case 12 -> compare("run()", x::run, model::run);
+      case 13 -> compare("output(" + of + ")", () -> x.output(of), () -> model.output(of));
+      default -> compare("digest()", x::digest, model::digest);
+    }
+  }
+
+  /** Everything of one allocation, and that comfortable leaves it. */
+  private void whole() {
+    compare("allocate()", x::allocate, model::allocate);
+    compare("comfortable()", x::comfortable, model::comfortable);
+    compare("run()", x::run, model::run);
+    for (int step = 0; step < model.allocate(); step++) {
+      for (int what = 0; what < 4; what++) {
+        int row = step;
+        int column = what;
+        compare("step(" + row + ", " + column + ")", () -> x.step(row, column), () -> model.step(row, column));
+      }
+    }
+    for (int piece = 0; piece < model.pieceCount(); piece++) {
+      for (int what = 0; what < 4; what++) {
+        int row = piece;
+        int column = what;
+        compare("piece(" + row + ", " + column + ")", () -> x.piece(row, column), () -> model.piece(row, column));
+      }
+    }
+    compare("pieceCount()", x::pieceCount, model::pieceCount);
+    compare("slots()", x::slots, model::slots);
+    compare("digest()", x::digest, model::digest);
+  }
+
+  private void compare(String call, Check.Call made, Check.Call due) {
+    Check.due("run " + run + ": " + call, Check.outcome(made), Check.outcome(due));
+  }
+
+  /** Mostly one of the last instructions that has a value; how far back is fixed for the run. */
+  private int value() {
+    if (model.size() == 0 || random.nextInt(60) == 0) {
+      return random.nextBoolean() ? odd(model.size(), 0) : random.nextInt(62);
+    }
+    int i = Math.max(0, model.size() - 1 - random.nextInt(reach));
+    while (i > 0 && model.kind(i) == 6) {
+      i--;
+    }
+    return i;
+  }
+
+  private int instruction() {
+    return random.nextInt(20) == 0 ? odd(model.size(), 59) : random.nextInt(model.size() + 1);
+  }
+
+  private int odd(int one, int other) {
+    int choice = random.nextInt(ODD.length + 2);
+    return choice < ODD.length ? ODD[choice] : choice == ODD.length ? one : other;
+  }
+}
