@@ -537,7 +537,10 @@ public final class RegisterAllocator {
       moveToNextUse(b, i);
       int step;
       if (code.hasValue(i)) {
-        int target = registerForResult(registerOfA, registerOfB);
+        int target = registerJustLeft(registerOfA, registerOfB);
+        if (target == NONE) {
+          target = getRegister(NONE, NONE);
+        }
         step = steps.append(code.kindOf(i), target, registerOfA, registerOfB);
         beginPiece(i, target, step);
       } else {
@@ -572,15 +575,12 @@ public final class RegisterAllocator {
       }
     }
 
-    /** Only a value that has just left can have freed the register of a or of b. */
-    private int registerForResult(int registerOfA, int registerOfB) {
+    /** If the register of a or of b is free, its value has just left it: both were held for this step. */
+    private int registerJustLeft(int registerOfA, int registerOfB) {
       if (isFree(registerOfA)) {
         return registerOfA;
       }
-      if (isFree(registerOfB)) {
-        return registerOfB;
-      }
-      return getRegister(NONE, NONE);
+      return isFree(registerOfB) ? registerOfB : NONE;
     }
 
     /** The register is free then; the values a and b keep theirs. */

@@ -6,6 +6,9 @@ public final class ReferenceTest {
   private static final int CALLS = 512;
   private static final int[] ODD = {-1, -2, 60, 61, 100, Integer.MIN_VALUE, Integer.MAX_VALUE};
 
+  private static int mostSteps = 0;
+  private static int mostPieces = 0;
+
   private final Random random;
   private final RegisterAllocator x = new RegisterAllocator();
   private final Model model = new Model();
@@ -25,10 +28,14 @@ public final class ReferenceTest {
       ReferenceTest test = new ReferenceTest(run);
       if (run % 3 == 0) {
         test.fill();
+      } else if (run % 3 == 1) {
+        test.crowd();
       }
       test.calls();
       test.whole();
     }
+    System.out.println(mostSteps + " steps and " + mostPieces + " pieces at most");
+    Check.due("the runs reach allocations of many steps and pieces", mostSteps > 130 && mostPieces > 100, true);
     Check.end();
   }
 
@@ -37,6 +44,33 @@ public final class ReferenceTest {
     compare("setRegisters", () -> x.setRegisters(2 + run % 7), () -> model.setRegisters(2 + run % 7));
     for (int i = 0; i < 60; i++) {
       appending();
+    }
+    whole();
+  }
+
+  /** Code that counts nearly all, with operations on values that are far back: many LOADs and STOREs. */
+  private void crowd() {
+    int far = 4 + random.nextInt(20);
+    int outFrom = 59 - random.nextInt(12);
+    compare("setRegisters", () -> x.setRegisters(2 + run % 5), () -> model.setRegisters(2 + run % 5));
+    compare("constant(3)", () -> x.constant(3), () -> model.constant(3));
+    for (int i = 1; i < outFrom; i++) {
+      int a = Math.max(0, i - far);
+      int b = random.nextInt(i);
+      int kind = 1 + random.nextInt(4);
+      if (random.nextInt(9) == 0) {
+        compare("constant(" + b + ")", () -> x.constant(b), () -> model.constant(b));
+      } else if (random.nextInt(9) == 0) {
+        compare("pass(5, " + a + ")", () -> x.pass(5, a), () -> model.pass(5, a));
+      } else if (random.nextBoolean()) {
+        compare("operate(" + kind + ", " + a + ", " + b + ")", () -> x.operate(kind, a, b), () -> model.operate(kind, a, b));
+      } else {
+        compare("operate(" + kind + ", " + b + ", " + a + ")", () -> x.operate(kind, b, a), () -> model.operate(kind, b, a));
+      }
+    }
+    for (int i = outFrom; i < 60; i++) {
+      int a = 2 * outFrom - 1 - i;
+      compare("pass(6, " + a + ")", () -> x.pass(6, a), () -> model.pass(6, a));
     }
     whole();
   }
@@ -133,6 +167,8 @@ public final class ReferenceTest {
     compare("pieceCount()", x::pieceCount, model::pieceCount);
     compare("slots()", x::slots, model::slots);
     compare("digest()", x::digest, model::digest);
+    mostSteps = Math.max(mostSteps, model.allocate());
+    mostPieces = Math.max(mostPieces, model.pieceCount());
   }
 
   private void compare(String call, Check.Call made, Check.Call due) {
