@@ -4,6 +4,7 @@ import java.util.List;
 import java.util.Map;
 import java.util.TreeMap;
 import java.util.TreeSet;
+import java.util.stream.IntStream;
 
 /** The document once more, slow and without thrift, to compare the class with. */
 final class Model {
@@ -74,28 +75,32 @@ final class Model {
   }
 
   boolean counts(int i) {
-    return at(i).kind() == 6 || nextUse(i, 0) >= 0;
+    at(i);
+    return counting()[i];
   }
 
   int nextUse(int i, int from) {
     at(i);
-    for (int user = i + 1; user < code.size(); user++) {
-      if (user >= from && code.get(user).uses(i) && counts(user)) {
-        return user;
-      }
-    }
-    return -1;
+    return users(i, counting()).filter(user -> user >= from).findFirst().orElse(-1);
   }
 
   int pressure(int i) {
     at(i);
-    int alive = 0;
-    for (int value = 0; value < code.size(); value++) {
-      if (value <= i && nextUse(value, i + 1) > i) {
-        alive++;
-      }
+    boolean[] counting = counting();
+    return (int) IntStream.rangeClosed(0, i).filter(value -> users(value, counting).anyMatch(user -> user > i)).count();
+  }
+
+  /** From the last instruction to the first, as each asks for later ones alone. */
+  private boolean[] counting() {
+    boolean[] counting = new boolean[code.size()];
+    for (int i = counting.length - 1; i >= 0; i--) {
+      counting[i] = code.get(i).kind() == 6 || users(i, counting).findAny().isPresent();
     }
-    return alive;
+    return counting;
+  }
+
+  private IntStream users(int i, boolean[] counting) {
+    return IntStream.range(i + 1, code.size()).filter(user -> counting[user] && code.get(user).uses(i));
   }
 
   int setRegisters(int number) {
@@ -243,18 +248,9 @@ final class Model {
 
     Maker(int number) {
       this.number = number;
-      boolean[] counting = new boolean[code.size()];
+      boolean[] counting = counting();
       for (int i = 0; i < counting.length; i++) {
-        counting[i] = counts(i);
-      }
-      for (int i = 0; i < counting.length; i++) {
-        List<Integer> users = new ArrayList<>();
-        for (int user = i + 1; user < counting.length; user++) {
-          if (counting[user] && code.get(user).uses(i)) {
-            users.add(user);
-          }
-        }
-        uses[i] = users.stream().mapToInt(Integer::intValue).toArray();
+        uses[i] = users(i, counting).toArray();
       }
     }
 

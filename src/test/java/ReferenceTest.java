@@ -26,16 +26,18 @@ public final class ReferenceTest {
   public static void main(String[] args) {
     for (int run = 0; run < RUNS; run++) {
       ReferenceTest test = new ReferenceTest(run);
-      if (run % 3 == 0) {
-        test.fill();
-      } else if (run % 3 == 1) {
-        test.crowd();
+      switch (run % 4) {
+        case 0 -> test.fill();
+        case 1 -> test.crowd();
+        case 2 -> test.chain();
+        default -> { }
       }
       test.calls();
       test.whole();
     }
     System.out.println(mostSteps + " steps and " + mostPieces + " pieces at most");
-    Check.due("the runs reach allocations of many steps and pieces", mostSteps > 130 && mostPieces > 100, true);
+    Check.due("the runs reach allocations of nearly as many steps as can be", mostSteps > 210, true);
+    Check.due("the runs reach allocations of nearly as many pieces as can be", mostPieces > 150, true);
     Check.end();
   }
 
@@ -66,6 +68,31 @@ public final class ReferenceTest {
         compare("operate(" + kind + ", " + a + ", " + b + ")", () -> x.operate(kind, a, b), () -> model.operate(kind, a, b));
       } else {
         compare("operate(" + kind + ", " + b + ", " + a + ")", () -> x.operate(kind, b, a), () -> model.operate(kind, b, a));
+      }
+    }
+    for (int i = outFrom; i < 60; i++) {
+      int a = 2 * outFrom - 1 - i;
+      compare("pass(6, " + a + ")", () -> x.pass(6, a), () -> model.pass(6, a));
+    }
+    whole();
+  }
+
+  /** Each operation uses two values that are a fixed way back: nearly each value is stored, and loaded twice. */
+  private void chain() {
+    int start = 3 + random.nextInt(8);
+    int backA = 1 + random.nextInt(start);
+    int backB = 1 + random.nextInt(start);
+    int outFrom = 59 - random.nextInt(6);
+    compare("setRegisters", () -> x.setRegisters(2 + run % 3), () -> model.setRegisters(2 + run % 3));
+    compare("constant(7)", () -> x.constant(7), () -> model.constant(7));
+    for (int i = 1; i < outFrom; i++) {
+      int a = i - backA;
+      int b = i - backB;
+      int kind = 1 + random.nextInt(4);
+      if (i <= start) {
+        compare("pass(5, 0)", () -> x.pass(5, 0), () -> model.pass(5, 0));
+      } else {
+        compare("operate(" + kind + ", " + a + ", " + b + ")", () -> x.operate(kind, a, b), () -> model.operate(kind, a, b));
       }
     }
     for (int i = outFrom; i < 60; i++) {
@@ -150,7 +177,8 @@ public final class ReferenceTest {
     compare("allocate()", x::allocate, model::allocate);
     compare("comfortable()", x::comfortable, model::comfortable);
     compare("run()", x::run, model::run);
-    for (int step = 0; step < model.allocate(); step++) {
+    int steps = model.allocate();
+    for (int step = 0; step < steps; step++) {
       for (int what = 0; what < 4; what++) {
         int row = step;
         int column = what;
@@ -167,7 +195,7 @@ public final class ReferenceTest {
     compare("pieceCount()", x::pieceCount, model::pieceCount);
     compare("slots()", x::slots, model::slots);
     compare("digest()", x::digest, model::digest);
-    mostSteps = Math.max(mostSteps, model.allocate());
+    mostSteps = Math.max(mostSteps, steps);
     mostPieces = Math.max(mostPieces, model.pieceCount());
   }
 
